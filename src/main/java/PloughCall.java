@@ -1631,14 +1631,13 @@ public final class PloughCall {
                 city.laws.add(OP_NOT);
                 return right;
             }
-            if (opens) {
-                return expression(ofKeeps, depth + 1) && closes();
+            if (!opens) {
+                city.laws.add(fact == 0 ? number : fact);
+                return true;
             }
-            city.laws.add(fact == 0 ? number : fact);
-            return true;
-        }
-
-        private boolean closes() {
+            if (!expression(ofKeeps, depth + 1)) {
+                return false;
+            }
             if (!tape.isSign(')')) {
                 return wrong(MISPLACED);
             }
