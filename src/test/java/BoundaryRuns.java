@@ -123,8 +123,14 @@ public final class BoundaryRuns {
         return at < 0 ? text : text.substring(0, at) + text.substring(at + 1);
     }
 
+    // What is wrong behind the first wrong token tells nothing, unless that one is the end.
+    private static final String MORE_WRONG = " ;term 6;! term 0;12345 man man";
+
     private static void cityWrong(int kind, String text) {
         due("city of " + text, city(new PloughCall(), fed(text)), faultOf(text, kind));
+        if (!text.endsWith("^")) {
+            due("city of " + text + MORE_WRONG, city(new PloughCall(), fed(text) + MORE_WRONG), faultOf(text, kind));
+        }
     }
 
     private static void cityRight(String text) {
@@ -133,6 +139,9 @@ public final class BoundaryRuns {
 
     private static void monthsWrong(String town, int kind, String text) {
         due("months of " + text, months(of(town), fed(text)), faultOf(text, kind));
+        if (!text.endsWith("^")) {
+            due("months of " + text + MORE_WRONG, months(of(town), fed(text) + MORE_WRONG), faultOf(text, kind));
+        }
     }
 
     private static void monthsRight(String town, String text) {
@@ -269,6 +278,11 @@ public final class BoundaryRuns {
         due("place 0", x.months(), 1);
         due("an empty TAPE is MONTHS of no line", x.months(), 0);
         due("lines", x.count(10), 0);
+        says(4, "[nothing of what was read ahead stands behind the end]");
+        due("a longer text", months(x, "abcdefgh"), 1);
+        due("a WORD at the end", months(x, "lay"), 1 + 16 * 3);
+        due("a longer text", city(x, "12345678"), 1);
+        due("a NUMBER at the end", city(x, "term 6"), 1 + 16 * 6);
     }
 
     // ---------------------------------------------------------------- promise 3: tokens
@@ -328,8 +342,21 @@ public final class BoundaryRuns {
         says(3, "CITY: any number of ..");
         cityRight("");
         cityRight("keeps 1;" + danger("d", 1, 0) + "decree e;" + men(2) + "term 1;consul b;works 1;hates a b;consul a;decree f;" + danger("g", 1, 1) + man("c", "idle", 1, 1, 1));
+        says(3, "[in whatever order]");
+        for (String laws : new String[] {"keeps 0;works 3;", "works 3;keeps 0;"}) {
+            PloughCall y = of("term 1;" + laws + PAIR + danger("d", 9, 0));
+            due("works 3", y.soon(1, 0), 3);
+            due("keeps 0", y.terms(0), 3);
+        }
+        says(3, "[as long as the TAPE is, again and again]");
+        PloughCall x = new PloughCall();
+        for (int i = 0; i < 5; i++) {
+            String law = "0+".repeat(400) + i;
+            due("works " + law, city(x, PAIR + danger("d", 20, 0) + "works " + law + ";"), 0);
+            due("soon", x.soon(1, 0), i == 0 ? -1 : (20 + i - 1) / i);
+        }
         says(3, "man: 6 at most, numbered as told");
-        PloughCall x = of(men(6));
+        x = of(men(6));
         due("six MEN", x.count(0), 6);
         for (int i = 0; i < 6; i++) {
             due("skill of " + i, x.man(i, 1), i);
@@ -491,6 +518,8 @@ public final class BoundaryRuns {
             }
         }
         cityRight(firsts[0] + man("xx", "plain", 1, 1, 1) + danger("xxx", 1, 1));
+        cityRight("decree a;decree aa;decree aaaaaaaa;decree ba;decree ab;decree b;");
+        cityRight("decree aaaaaaab;decree baaaaaaa;decree z;decree zz;decree zzzzzzzz;");
     }
 
     // ---------------------------------------------------------------- promise 3: E
@@ -554,6 +583,10 @@ public final class BoundaryRuns {
         cityWrong(5, "works not not not not not ^1;");
         cityWrong(5, "works not(not(not^(1)));");
         cityWrong(5, "keeps ((((1+not ^1))));");
+        String deep = "1 and 0<9-2*";
+        worth(deep + "(" + deep + "(" + deep + "(" + deep + "(" + deep + "4))))", 1);
+        worth("7+2*(9-2*(9-2*(9-2*(1 and 0<9-2*4))))", 7 + 2 * (9 - 2 * (9 - 2 * (9 - 2))));
+        worth("0=1*(0 or 0=9-2*(0 or 0=9-2*(0 or 0=9-2*(0 or 0=9-3*3))))", 1);
         says(3, "5 .. not, or a PART, within 5 others");
         cityWrong(5, "works (((((^not");
         cityWrong(5, "works (((((^(");
@@ -688,6 +721,13 @@ public final class BoundaryRuns {
         cityWrong(4, "term ^0;term 0;man man 12345 A");
         cityWrong(1, "^x;term 0;");
         cityWrong(4, "term ^13 x");
+        says(3, "[a line that does not end ahead of the next one]");
+        String[] lines = {men(2) + "consul a", men(2) + "hates a b", danger("d", 1, 1) + "danger e size 1 grows 1", decrees(1) + "decree z", decrees(1) + "decree z on p",
+            "term 6", "works 1", "keeps 1", "man c idle skill 1 field 1 want 1"};
+        for (String line : lines) {
+            cityWrong(1, line + " ^" + man("y", "plain", 1, 1, 1));
+            cityWrong(1, line + " ^decree y;");
+        }
         says(3, "[of the first one ..] the least");
         cityWrong(1, men(6) + "^men g");
         cityWrong(2, men(1) + "hates ^z z;");
@@ -718,6 +758,7 @@ public final class BoundaryRuns {
         due("judged", x.judged(0), 2);
         due("the laws: 23 by 4", x.soon(1, 1), 6);
         due("the MARK", x.mark(3, true), true);
+        due("MONTHS", months(x, "name a b;lay;lay;"), 0);
         says(3, "Without a FAULT a CITY is the CITY from then on: month 0, DANGERS, fields as told, nobody has the POWER, nobody is liked, no MONTHS, nothing TOLD, nothing can be undone ..");
         x.month(0);
         x.lay();
@@ -747,6 +788,27 @@ public final class BoundaryRuns {
         due("keeps", x.count(8), 0);
         due("city", city(x, men(2)), 0);
         due("no consul", x.count(3), 0);
+        says(3, "[nor of one that had a FAULT]");
+        String whole = PAIR + "hates a b;" + danger("d", 9, 0) + decrees(1) + "decree z on p;works 9;keeps 1;term 1;";
+        x = new PloughCall();
+        for (int i = 0; i < 3; i++) {
+            due("a FAULT", city(x, whole + "!"), 1 + 16 * whole.length());
+            due("city", city(x, PAIR + danger("d", 9, 0) + decrees(1) + "decree z;"), 0);
+            due("the term", x.count(14), 6);
+            due("may", x.may(0, 1), true);
+            due("falls", x.falls(1), 1);
+            due("soon", x.soon(1, 0), 3);
+            due("whom", x.whom(0), 1);
+            due("all of it may be told", city(x, whole), 0);
+            due("the laws", x.soon(1, 0), 1);
+            due("nobody who would go", x.whom(0), -1);
+        }
+        says(4, "[a NAME of the CITY that stands, not of one that had a FAULT]");
+        due("a FAULT", city(x, man("y", "plain", 1, 1, 1) + danger("z", 1, 1) + "!"), 1 + 16 * 59);
+        due("MONTHS", months(x, "master b;month d;"), 0);
+        due("MONTHS", months(x, "master y;"), 2 + 16 * 7);
+        due("MONTHS of nothing at all", months(new PloughCall(), "master y;"), 2 + 16 * 7);
+        due("MONTHS of nothing at all", months(new PloughCall(), "month y;"), 2 + 16 * 6);
     }
 
     private static void newMonths() {
@@ -778,6 +840,10 @@ public final class BoundaryRuns {
         monthsWrong(town, 1, "name a b ^m;");
         monthsWrong(town, 1, "lay ^a;");
         monthsWrong(town, 1, "lay^");
+        for (String line : new String[] {"name a b", "master m", "month d", "disobey d e", "lay"}) {
+            monthsWrong(town, 1, line + " ^month d;");
+            monthsWrong(town, 1, line + "^");
+        }
         says(4, "2 a NAME of no MAN (behind .. name, master)");
         monthsWrong(town, 2, "name ^d a;");
         monthsWrong(town, 2, "name a ^p;");
@@ -1499,6 +1565,10 @@ public final class BoundaryRuns {
         x.name(0, 1);
         due("d e e ahead of e d e and e e d", x.headings(3, 1) * 100 + x.headings(3, 2) * 10 + x.headings(3, 3), 11);
         due("d d e e ahead of others", x.headings(4, 1) * 1000 + x.headings(4, 2) * 100 + x.headings(4, 3) * 10 + x.headings(4, 4), 11);
+        x = of(PAIR + danger("d", 4, 0) + danger("e", 5, 0));
+        x.name(0, 1);
+        due("d e e leaves 0, d d e ahead of it 1", x.headings(3, 0), 0);
+        due("d e e", x.headings(3, 1) * 100 + x.headings(3, 2) * 10 + x.headings(3, 3), 11);
         says(18, "-2: .. nobody has the POWER");
         x.lay();
         due("nobody", x.headings(1, 0), -2);
@@ -1614,6 +1684,8 @@ public final class BoundaryRuns {
         says(21, "99 at most");
         // lost, 95 + 9 is 99: by 99 less it is 0
         due("0.5 + 0.25", chance(of(one + danger("d", 95, 9) + "works 99;"), 0, 0, 5, 2), 750000);
+        due("from 99", chance(of(one + danger("d", 99, 9) + "works 99;"), 0, 0, 5, 2), 750000);
+        due("from 98", chance(of(one + danger("d", 98, 1) + "works 99;"), 0, 0, 5, 2), 750000);
         says(21, "passed goes on");
         // in the first month by 0; in the second one by 1, whether the first was lost or not
         due("0.5", chance(of(one + danger("d", 1, 0) + "works passed;"), 0, 0, 5, 2), 500000);
@@ -1769,6 +1841,10 @@ public final class BoundaryRuns {
         // behind 1: 2 and 2 alike; behind 2: 1 1 2
         String four = man("a", "plain", 1, 0, 0) + man("b", "plain", 1, 0, 1) + man("c", "plain", 2, 0, 0) + man("f", "plain", 2, 0, 1) + danger("d", 50, 0);
         due("all parted behind 2", of(four + "works able*(passed=0)+greed*(passed=1)*5;").when(0), 2);
+        // behind 1: 0 9 9 9, behind 2: 0 9 9 8, behind 3: 0 9 7 8
+        due("with some at 0", of(man("a", "plain", 9, 0, 0) + man("b", "plain", 0, 0, 0) + man("c", "plain", 0, 0, 1) + man("f", "plain", 0, 0, 3) + danger("d", 9, 0)
+            + "works able+(passed=1)*(greed=3)+2*(passed=2)*(greed=1);").when(0), 3);
+        due("from 99", of(man("a", "plain", 1, 0, 0) + man("b", "plain", 2, 0, 0) + danger("d", 99, 0)).when(0), 1);
         says(26, "of equal ones the first");
         due("parted behind 1, 2 ..", of(four).when(0), 1);
         says(26, "if that is less than all .. NONE: others, none parts them");
@@ -1950,6 +2026,29 @@ public final class BoundaryRuns {
         due("the MONTHS", x.judged(2), 35);
         x.month(1);
         due("passed: 13 - 2 - 3", x.danger(1, 0), 8);
+        says(29, "[what was read or TOLD in between is gone]");
+        String[] some = {"name a b;month d;", "name a b;master m;disobey d e;", "name a m;lay;"};
+        String[] others = {"name a m;month e;", "name a m;master b;disobey e d;", "name m a;lay;"};
+        int[] judged = {6 + 23, 6 + 13, 30};
+        for (int i = 0; i < 3; i++) {
+            PloughCall y = of(TRIO + TWO_DANGERS);
+            due("MONTHS", months(y, some[i]), 0);
+            y.mark(0, false);
+            due("MONTHS", months(y, others[i]), 0);
+            due("back", y.mark(0, true), true);
+            due("judged(0)", y.judged(0), -1);
+            due("judged(2)", y.judged(2), judged[i]);
+            // b: d behind 2 is 2; TOLD otherwise by the DANGER, the months or the size
+            y.mark(1, false);
+            y.tell(0, 2, 2);
+            y.mark(2, false);
+            y.mark(1, true);
+            due("nothing TOLD", y.count(11), 0);
+            y.tell(i == 0 ? 1 : 0, i == 1 ? 1 : 2, i == 2 ? 3 : 2);
+            due("by others", y.who(), 0);
+            y.mark(2, true);
+            due("by b", y.who(), 2);
+        }
         says(29, "(nothing can be undone when one is gone back to)");
         due("a month can", x.undo(), true);
         due("no more", x.undo(), false);
